@@ -1,0 +1,744 @@
+/** Each promise of the document in turn: ordinary inputs, the edges that it names, and wrong inputs. */
+public final class PromiseTest {
+    private static final String INDEX = "IndexOutOfBoundsException";
+    private static final String STATE = "IllegalStateException";
+    private static final String ROOM = "UnsupportedOperationException";
+    private static final String ARGUMENT = "IllegalArgumentException";
+    private static final String LONG = "ArithmeticException";
+
+    /** A product from nat to nat, the type of a new definable constant. */
+    private static final String FUNCTION = " c0 assume c0 product declare+ ";
+
+    /** c0 nat, c1 zero, c2 succ, c3 plus (definable, still without rules). */
+    private static final String NAT =
+            "sort declare- c0 declare- c0 assume c0 product declare- "
+                    + "c0 assume c0 assume c0 product product declare+ ";
+
+    /** plus zero x is x; plus (succ x) y is succ (plus x y). */
+    private static final String PLUS =
+            NAT + "c0 assume c3 c1 apply v0 apply v0 rule "
+                    + "c0 assume c0 assume c3 c2 v1 apply apply v0 apply c2 c3 v1 apply v0 apply apply rule ";
+
+    /** c4 vec, a type for each nat; c5 nil of vec zero; c6 cons from each n and vec n to vec (succ n). */
+    private static final String VEC =
+            PLUS + "c0 assume sort product declare- c4 c1 apply declare- "
+                    + "c0 assume c4 v0 apply assume c4 c2 v1 apply apply product product declare- ";
+
+    /** c4 adds four succs, c5 sixteen. */
+    private static final String BIG =
+            NAT + FUNCTION + "c0 assume c4 v0 apply c2 c2 c2 c2 v0 apply apply apply apply rule "
+                    + FUNCTION + "c0 assume c5 v0 apply c4 c4 c4 c4 v0 apply apply apply apply rule ";
+
+    /** The 16th succ of zero, and the 19th, whose row has 39 numbers. */
+    private static final String SIXTEEN = " c5 c1 apply normal ";
+    private static final String NINETEEN = " c5 c2 c2 c2 c1 apply apply apply apply normal ";
+
+    /** c0 a type that is rewritten to itself without end, c1 of that type; c2 nat, c3 zero, c4 succ. */
+    private static final String LOOP =
+            "sort declare+ c0 c0 rule c0 declare- sort declare- c2 declare- c2 assume c2 product declare- ";
+
+    public static void main(String[] args) {
+        newObject();
+        sort();
+        constant();
+        variable();
+        apply();
+        applyTypes();
+        applyLimits();
+        assume();
+        lambda();
+        product();
+        declare();
+        rule();
+        ruleLeftSides();
+        ruleTypes();
+        normal();
+        normalPuts();
+        normalRules();
+        normalOrder();
+        normalLimits();
+        same();
+        drop();
+        leave();
+        counts();
+        judgement();
+        made();
+        entry();
+        type();
+        side();
+        Talk.end("PromiseTest");
+    }
+
+    private static String succs(int n) {
+        return "2 12 ".repeat(n) + "11";
+    }
+
+    private static void newObject() {
+        Talk t = new Talk("promise 1", "");
+        t.counts(0, 0, 0, 0);
+        t.is("the state", Talk.state(t.kernel), Talk.state(new TypeKernel()));
+        t.is("made", t.kernel.made(0), -1);
+        t.is("type", t.kernel.type(0, -1), -1);
+        t.is("side", t.kernel.side(0, false, -1), -1);
+        t.does("sort declare+ c0 c0 rule c0 assume sort");
+        t.is("another object's counts", new TypeKernel().counts(), 0);
+    }
+
+    private static void sort() {
+        Talk t = new Talk("promise 2", "sort");
+        t.term(0, "0");
+        t.itsType(0, "1");
+        t.is("made", t.kernel.made(0), 0);
+        t.does("sort sort sort sort sort");
+        t.counts(6, 0, 0, 0);
+        t.answers("sort", ROOM);
+        t = new Talk("promise 2, in a context", "sort declare- c0 assume sort");
+        t.is("made", t.kernel.made(0), 1);
+    }
+
+    private static void constant() {
+        Talk t = new Talk("promise 3", NAT + "c3 c1");
+        t.term(1, "13");
+        t.itsType(1, "4 10 4 10 10");
+        t.term(0, "11");
+        t.itsType(0, "10");
+        t.answers("c4", INDEX);
+        t.answers("c-1", INDEX);
+        t.answers("c2147483647", INDEX);
+        t.answers("c-2147483648", INDEX);
+        t.does("c0 c0 c0 c0");
+        t.answers("c0", ROOM);
+        t.answers("c4", INDEX);
+        t = new Talk("promise 3, none declared", "");
+        t.answers("c0", INDEX);
+    }
+
+    private static void variable() {
+        Talk t = new Talk("promise 4", VEC + "c0 assume c4 v0 apply assume c4 v1 apply assume v0 v1 v2");
+        t.term(2, "100");
+        t.itsType(2, "2 14 102");
+        t.term(1, "101");
+        t.itsType(1, "2 14 102");
+        t.term(0, "102");
+        t.itsType(0, "10");
+        t.is("made", t.kernel.made(0), 3);
+        t.answers("v3", INDEX);
+        t.answers("v-1", INDEX);
+        t.answers("v2147483647", INDEX);
+        t.does("sort sort sort");
+        t.answers("v0", ROOM);
+        t.answers("v3", INDEX);
+        // What the entry binds itself stays as it is, what stands in a domain or is bound further out moves.
+        t = new Talk("promise 4, an entry with a product",
+                VEC + "c0 assume c4 v0 apply assume c4 v1 apply product assume c0 assume v1");
+        t.itsType(0, "4 2 14 102 2 14 103");
+        t = new Talk("promise 4, an entry that binds its own",
+                VEC + "c0 assume c0 assume c4 v0 apply product assume v0");
+        t.itsType(0, "4 10 2 14 100");
+        new Talk("promise 4, no context", NAT).answers("v0", INDEX);
+    }
+
+    private static void apply() {
+        Talk t = new Talk("promise 5", NAT + "sort c3 c1 apply");
+        t.counts(2, 0, 4, 0);
+        t.term(0, "2 13 11");
+        t.itsType(0, "4 10 10");
+        t.term(1, "0");
+        t.does("c2 c1 apply apply");
+        t.term(0, "2 2 13 11 2 12 11");
+        t.itsType(0, "10");
+        t = new Talk("promise 5, too few", NAT);
+        t.answers("apply", STATE);
+        t.answers("c2 apply", STATE);
+        t = new Talk("promise 5, the lower one not present", NAT + "c2 c0 assume c1");
+        t.answers("apply", STATE);
+        t = new Talk("promise 5, both not present", NAT + "c2 c1 c0 assume");
+        t.answers("apply", STATE);
+        t.does("leave apply");
+        t.term(0, "2 12 11");
+        t = new Talk("promise 5, no product", NAT + "c1 c1");
+        t.answers("apply", ARGUMENT);
+        t.answers("drop sort apply", ARGUMENT);
+        t.answers("c1 apply", ARGUMENT);
+        t = new Talk("promise 5, another domain", NAT + "c2 c2");
+        t.answers("apply", ARGUMENT);
+        t.answers("drop c0 apply", ARGUMENT);
+    }
+
+    private static void applyTypes() {
+        Talk t = new Talk("promise 5, put into the type", VEC + "c6 c2 c1 apply apply");
+        t.itsType(0, "4 2 14 2 12 11 2 14 2 12 2 12 11");
+        t = new Talk("promise 5, put a variable into the type", VEC + "c0 assume c0 assume c6 v1 apply");
+        t.itsType(0, "4 2 14 101 2 14 2 12 102");
+        t.does("drop c0 assume c4 v1 apply assume c6 v2 apply v0");
+        t.itsType(0, "2 14 102");
+        t.does("apply");
+        t.itsType(0, "2 14 2 12 102");
+        // The domain vec zero is what vec (plus zero zero) comes to, on either side.
+        t = new Talk("promise 5, the upper type made normal",
+                VEC + "c4 c3 c1 apply c1 apply apply declare- c6 c1 apply c7 apply");
+        t.term(0, "2 2 16 11 17");
+        t.itsType(0, "2 14 2 12 11");
+        t = new Talk("promise 5, the lower type made normal",
+                VEC + "c6 c3 c1 apply c1 apply apply");
+        t.itsType(0, "4 2 14 2 2 13 11 11 2 14 2 12 2 2 13 11 11");
+        t.does("c5 apply");
+        t.itsType(0, "2 14 2 12 11");
+        t = new Talk("promise 5, a type that comes to a product",
+                NAT + "sort declare+ c4 declare- c4 c0 assume c0 product rule c5 c1 apply");
+        t.term(0, "2 15 11");
+        t.itsType(0, "10");
+    }
+
+    private static void applyLimits() {
+        Talk t = new Talk("promise 5, a row of 39", BIG + "c2 c5 c2 c2 c1 apply apply apply normal apply");
+        t.term(0, succs(19));
+        t = new Talk("promise 5, a row of 41", BIG + "c2" + NINETEEN);
+        t.answers("apply", LONG);
+        t = new Talk("promise 5, wrong and a row of 41", BIG + "c1" + NINETEEN);
+        t.answers("apply", ARGUMENT);
+        String twice = BIG + "c0 assume c0 assume sort product product declare- "
+                + "c0 assume c6 v0 apply v0 apply product declare- ";
+        t = new Talk("promise 5, a type of 37", twice + "c7 c4 c4 c1 apply apply normal apply");
+        t.itsType(0, "2 2 16 " + succs(8) + " " + succs(8));
+        t = new Talk("promise 5, a type of 41", twice + "c7 c4 c4 c2 c1 apply apply apply normal");
+        t.answers("apply", LONG);
+        t = new Talk("promise 5, the lower type without end", LOOP + "c1 c3");
+        t.answers("apply", LONG);
+        t = new Talk("promise 5, the upper type without end", LOOP + "c4 c1");
+        t.answers("apply", LONG);
+        t = new Talk("promise 5, no product and the upper type without end", LOOP + "c3 c1");
+        t.answers("apply", ARGUMENT);
+    }
+
+    private static void assume() {
+        Talk t = new Talk("promise 6", NAT + "c1 c0 assume");
+        t.counts(1, 1, 4, 0);
+        t.is("the entry", Talk.entryRow(t.kernel, 0), "10");
+        t.answers("assume", STATE);
+        t.does("c0 assume c0 assume c0 assume");
+        t.counts(1, 4, 4, 0);
+        t.answers("assume", STATE);
+        t.answers("c0 assume", ROOM);
+        t.answers("c1 assume", ROOM);
+        t = new Talk("promise 6, wrong types", NAT);
+        t.answers("assume", STATE);
+        t.answers("sort assume", ARGUMENT);
+        t.answers("c1 assume", ARGUMENT);
+        t.answers("c2 assume", ARGUMENT);
+        t = new Talk("promise 6, the entries' order", VEC + "c0 assume c4 v0 apply assume");
+        t.is("the latest entry", Talk.entryRow(t.kernel, 0), "2 14 100");
+        t.is("the entry before", Talk.entryRow(t.kernel, 1), "10");
+    }
+
+    private static void lambda() {
+        Talk t = new Talk("promise 7", VEC + "sort c0 assume c4 v0 apply assume v0 lambda");
+        t.counts(2, 1, 7, 2);
+        t.term(0, "3 2 14 100 100");
+        t.itsType(0, "4 2 14 100 2 14 101");
+        t.is("made", t.kernel.made(0), 1);
+        t.does("lambda");
+        t.term(0, "3 10 3 2 14 100 100");
+        t.itsType(0, "4 10 4 2 14 100 2 14 101");
+        t.is("made", t.kernel.made(0), 0);
+        t.counts(2, 0, 7, 2);
+        t.answers("lambda", STATE);
+        t = new Talk("promise 7, a type as body", VEC + "c0 assume c4 v0 apply lambda");
+        t.term(0, "3 10 2 14 100");
+        t.itsType(0, "4 10 0");
+        t = new Talk("promise 7, none present", NAT);
+        t.answers("lambda", STATE);
+        t.answers("c1 lambda", STATE);
+        t.answers("c0 assume lambda", STATE);
+        t.answers("v0 v0 lambda", STATE);
+        t.answers("sort lambda", STATE);
+        t.answers("drop drop lambda", "done");
+        t = new Talk("promise 7, of type KIND", NAT + "c0 assume sort");
+        t.answers("lambda", ARGUMENT);
+        t.does("drop c0 assume sort product");
+        t.itsType(0, "1");
+        t.answers("lambda", ARGUMENT);
+        t = new Talk("promise 7, a row of 39", BIG + "c0 assume c5 c2 c2 v0 apply apply apply normal lambda");
+        t.term(0, "3 10 " + "2 12 ".repeat(18) + "100");
+        t = new Talk("promise 7, a row of 41", BIG + "c0 assume c5 c2 c2 c2 v0 apply apply apply apply normal");
+        t.answers("lambda", LONG);
+        String vec = BIG + "c0 assume sort product declare- ";
+        t = new Talk("promise 7, a type of 39",
+                vec + "c6 c5 c2 c1 apply apply normal apply declare- c0 assume c7 lambda");
+        t.term(0, "3 10 17");
+        t.itsType(0, "4 10 2 16 " + succs(17));
+        t = new Talk("promise 7, a type of 41",
+                vec + "c6 c5 c2 c2 c1 apply apply apply normal apply declare- c0 assume c7");
+        t.answers("lambda", LONG);
+    }
+
+    private static void product() {
+        Talk t = new Talk("promise 8", VEC + "c1 c0 assume c4 v0 apply product");
+        t.counts(2, 0, 7, 2);
+        t.term(0, "4 10 2 14 100");
+        t.itsType(0, "0");
+        t.is("made", t.kernel.made(0), 0);
+        t.answers("product", STATE);
+        t = new Talk("promise 8, of type KIND", VEC + "c0 assume c4 v0 apply assume sort product");
+        t.term(0, "4 2 14 100 0");
+        t.itsType(0, "1");
+        t.is("made", t.kernel.made(0), 1);
+        t.does("product");
+        t.term(0, "4 10 4 2 14 100 0");
+        t.itsType(0, "1");
+        t = new Talk("promise 8, none present", NAT);
+        t.answers("product", STATE);
+        t.answers("c0 product", STATE);
+        t.answers("c0 assume product", STATE);
+        t.answers("c0 c0 product", STATE);
+        t.answers("v0 product", STATE);
+        t.answers("drop drop product", "done");
+        t = new Talk("promise 8, no type", NAT + "c0 assume v0");
+        t.answers("product", ARGUMENT);
+        t.answers("drop c2 product", ARGUMENT);
+        String vec = BIG + "c0 assume sort product declare- c0 assume ";
+        t = new Talk("promise 8, a row of 39", vec + "c6 c5 c2 c1 apply apply normal apply product");
+        t.term(0, "4 10 2 16 " + succs(17));
+        t = new Talk("promise 8, a row of 41", vec + "c6 c5 c2 c2 c1 apply apply apply normal apply");
+        t.answers("product", LONG);
+        t = new Talk("promise 8, no type and a row of 41",
+                BIG + "c0 assume c5 c2 c2 c2 c1 apply apply apply apply normal");
+        t.answers("product", ARGUMENT);
+    }
+
+    private static void declare() {
+        Talk t = new Talk("promise 9", "");
+        t.answers("declare+", STATE);
+        t.answers("sort sort declare+", 0);
+        t.counts(1, 0, 1, 0);
+        t.is("the type", Talk.typeRow(t.kernel, 0), "0");
+        t.is("definable", t.kernel.type(0, -1), 1);
+        t.answers("c0 declare-", 1);
+        t.is("the type", Talk.typeRow(t.kernel, 1), "10");
+        t.is("definable", t.kernel.type(1, -1), 0);
+        t.does("c0 assume sort product");
+        t.answers("declare-", 2);
+        t.is("the type", Talk.typeRow(t.kernel, 2), "4 10 0");
+        t.answers("c1 declare+", ARGUMENT);
+        t.answers("c2 declare+", ARGUMENT);
+        t.answers("c0 assume declare-", STATE);
+        t.answers("c0 declare-", STATE);
+        t.answers("drop leave declare-", ARGUMENT);
+        t = new Talk("promise 9, eight at most", "sort declare- ".repeat(7));
+        t.answers("sort declare-", 7);
+        t.answers("declare-", STATE);
+        t.answers("sort declare-", ROOM);
+        t.answers("c7 assume c7 declare-", STATE);
+        t.does("drop leave drop");
+        t = new Talk("promise 9, full and no type", "sort declare- c0 declare- " + "c0 declare- ".repeat(6));
+        t.answers("c1 declare-", ROOM);
+    }
+
+    private static void rule() {
+        Talk t = new Talk("promise 10", NAT + "c0 assume c3 c1 apply v0 apply v0");
+        t.answers("rule", 0);
+        t.counts(0, 0, 4, 1);
+        t.is("left", Talk.sideRow(t.kernel, 0, false), "2 2 13 11 100");
+        t.is("right", Talk.sideRow(t.kernel, 0, true), "100");
+        t.is("variables", t.kernel.side(0, false, -1), 1);
+        t.answers("c3 c3 rule", 1);
+        t.answers("rule", STATE);
+        t.answers("c3 rule", STATE);
+        t.answers("c3 c3 rule", STATE);
+        t.answers("drop drop c0 assume c3 rule", STATE);
+        t.answers("c3 rule", STATE);
+        t = new Talk("promise 10, not present", NAT + "c3 c3 c0 assume");
+        t.answers("rule", STATE);
+        t.answers("leave rule", 0);
+        t = new Talk("promise 10, eight at most", NAT + "c3 c3 rule ".repeat(7));
+        t.answers("c3 c3 rule", 7);
+        t.answers("c3 c3 rule", ROOM);
+        t.answers("drop c1 rule", ROOM);
+        t.answers("drop drop c1 c1 rule", ROOM);
+        t.answers("c1 rule", STATE);
+        t = new Talk("promise 10, four variables", NAT + "c0 assume c0 assume c0 assume c0 assume "
+                + "c3 c3 v3 apply v1 apply apply c3 v0 apply v2 apply apply c3 v0 apply v3 apply");
+        t.answers("rule", 0);
+        t.is("variables", t.kernel.side(0, true, -1), 4);
+        t.counts(0, 0, 4, 1);
+    }
+
+    private static void ruleLeftSides() {
+        leftSide("a definable constant", NAT + FUNCTION + "c4 c2", 0);
+        leftSide("a constant that is not definable", NAT + "c2 c2", ARGUMENT);
+        leftSide("one applied", NAT + "c2 c1 apply c1", ARGUMENT);
+        leftSide("a variable", NAT + "c0 assume v0 v0", ARGUMENT);
+        leftSide("TYPE", NAT + "sort sort", ARGUMENT);
+        leftSide("a product", NAT + "c0 assume c0 product c0", ARGUMENT);
+        leftSide("a lambda", NAT + "c0 assume v0 lambda c2", ARGUMENT);
+        leftSide("a variable that it has not", NAT + "c0 assume c3 c1 apply c1 apply c1", ARGUMENT);
+        leftSide("a variable twice", NAT + "c0 assume c3 v0 apply v0 apply v0", ARGUMENT);
+        leftSide("a variable twice, another never",
+                NAT + "c0 assume c0 assume c3 v0 apply v0 apply v0", ARGUMENT);
+        leftSide("the older of two variables missing", NAT + "c0 assume c0 assume c3 v0 apply c2", ARGUMENT);
+        leftSide("a variable less than all arguments", NAT + "c0 assume c3 v0 apply c2", 0);
+        leftSide("a definable constant within", NAT + "c0 assume c3 c3 v0 apply c1 apply apply c2", 0);
+        leftSide("constants applied within", NAT + "c0 assume c3 c2 c2 v0 apply apply apply c2", 0);
+        String taker = NAT + "c0 assume c0 product assume c0 product declare+ ";
+        leftSide("a constant of a function's type as argument", taker + "c4 c2 apply c1", 0);
+        leftSide("a variable of a function's type", taker + "c0 assume c0 product assume c4 v0 apply c1", 0);
+        leftSide("a lambda within", taker + "c4 c0 assume v0 lambda apply c1", ARGUMENT);
+        leftSide("a lambda within, applied", NAT + "c3 c0 assume v0 lambda c1 apply apply c2", ARGUMENT);
+        leftSide("a variable applied",
+                taker + "c0 assume c0 product assume c3 v0 c1 apply apply c2", ARGUMENT);
+        leftSide("a variable applied at the head",
+                NAT + "c0 assume c0 product assume v0 c1 apply c1", ARGUMENT);
+        leftSide("a constant that is not definable at the head, a definable one within",
+                NAT + "c0 assume c2 c3 v0 apply c1 apply apply v0", ARGUMENT);
+        String ofTypes = "sort declare- c0 assume sort product declare+ c0 declare- ";
+        leftSide("a type's constant", ofTypes + "c1 c2 apply c0", 0);
+    }
+
+    private static void leftSide(String title, String words, Object due) {
+        new Talk("promise 10, left side: " + title, words).answers("rule", due);
+    }
+
+    private static void ruleTypes() {
+        Talk t = new Talk("promise 10, other types", NAT + "c3 c2");
+        t.answers("rule", ARGUMENT);
+        t = new Talk("promise 10, types that come to the same",
+                VEC + "c4 c3 c1 apply c1 apply apply declare+ c7 c5");
+        t.answers("rule", 2);
+        t = new Talk("promise 10, types that do not", VEC + "c4 c2 c1 apply apply declare+ c7 c5");
+        t.answers("rule", ARGUMENT);
+        t = new Talk("promise 10, no end left", LOOP + "c0 declare+ c5 c3");
+        t.answers("rule", LONG);
+        t = new Talk("promise 10, no end right", LOOP + "c2 declare+ c5 c1");
+        t.answers("rule", LONG);
+        t = new Talk("promise 10, a wrong side and no end", LOOP + "c1 c3");
+        t.answers("rule", ARGUMENT);
+        t = new Talk("promise 10, full and no end", LOOP + "c0 c0 rule ".repeat(7) + "c1 c1");
+        t.answers("rule", ROOM);
+    }
+
+    private static void normal() {
+        Talk t = new Talk("promise 11", PLUS + "c3 c2 c2 c1 apply apply apply c2 c1 apply apply");
+        t.answers("normal", 3);
+        t.term(0, succs(3));
+        t.itsType(0, "10");
+        t.answers("normal", 0);
+        t.counts(1, 0, 4, 2);
+        t.does("drop");
+        t.answers("normal", STATE);
+        t = new Talk("promise 11, not present", PLUS + "c0 assume c3 c1 apply v0 apply c0 assume");
+        t.answers("normal", 1);
+        t.term(0, "100");
+        t.is("made", t.kernel.made(0), 1);
+        // The type stays as it is though it has a redex itself.
+        t = new Talk("promise 11, the type stays", VEC + "c6 c3 c1 apply c1 apply apply normal");
+        t.term(0, "2 16 11");
+        t.itsType(0, "4 2 14 2 2 13 11 11 2 14 2 12 2 2 13 11 11");
+        t = new Talk("promise 11, the uppermost one alone", PLUS + "c3 c1 apply c1 apply c3 c1 apply c1 apply normal");
+        t.term(0, "11");
+        t.term(1, "2 2 13 11 11");
+    }
+
+    private static void normalPuts() {
+        Talk t = new Talk("putting under a lambda", NAT + "c0 assume c0 assume c0 assume v1 lambda lambda v0 apply");
+        t.term(0, "2 3 10 3 10 101 100");
+        t.answers("normal", 1);
+        t.term(0, "3 10 101");
+        t = new Talk("variables above become less", NAT + "c0 assume c0 assume c0 assume v1 lambda c1 apply");
+        t.term(0, "2 3 10 101 11");
+        t.does("normal");
+        t.term(0, "100");
+        t = new Talk("variables above become less under a lambda",
+                NAT + "c0 assume c0 assume c0 assume v2 lambda lambda c1 apply normal");
+        t.term(0, "3 10 101");
+        t = new Talk("variables bound within stay",
+                NAT + "c0 assume c0 assume v0 lambda lambda c1 apply normal");
+        t.term(0, "3 10 100");
+        t = new Talk("a domain is not under its lambda",
+                VEC + "c0 assume c0 assume c4 v0 apply assume v1 lambda lambda v0 apply");
+        t.term(0, "2 3 10 3 2 14 100 101 100");
+        t.does("normal");
+        t.term(0, "3 2 14 100 101");
+        t = new Talk("a domain is not under its product",
+                VEC + "c0 assume c0 assume c4 v0 apply assume c4 v1 apply product lambda v0 apply normal");
+        t.term(0, "4 2 14 100 2 14 101");
+        t = new Talk("an argument with a lambda under a lambda", NAT
+                + "c0 assume c0 assume c0 product assume c0 assume v1 lambda lambda c0 assume c3 v0 apply v1 apply lambda apply");
+        t.term(0, "2 3 4 10 10 3 10 101 3 10 2 2 13 100 101");
+        t.answers("normal", 1);
+        t.term(0, "3 10 3 10 2 2 13 100 102");
+        t = new Talk("an argument put twice", PLUS + "c0 assume c3 v0 apply v0 apply lambda c2 c1 apply apply");
+        t.answers("normal", 3);
+        t.term(0, succs(2));
+        t = new Talk("a redex that a step makes", PLUS + "c0 assume c0 product assume v0 c1 apply lambda "
+                + "c0 assume c2 v0 apply lambda apply");
+        t.answers("normal", 2);
+        t.term(0, succs(1));
+    }
+
+    private static void normalRules() {
+        Talk t = new Talk("a rule under a lambda", PLUS + "c0 assume c3 c2 c1 apply apply v0 apply lambda");
+        t.answers("normal", 2);
+        t.term(0, "3 10 2 12 100");
+        String constantly = NAT + "c0 assume c0 assume c0 product product declare+ "
+                + "c0 assume c4 v0 apply c0 assume v1 lambda rule ";
+        t = new Talk("a right side that binds", constantly + "c0 assume c0 assume c4 v1 apply");
+        t.answers("normal", 1);
+        t.term(0, "3 10 102");
+        t = new Talk("a right side that binds, under a lambda", constantly + "c0 assume c4 v0 apply lambda normal");
+        t.term(0, "3 10 3 10 101");
+        t = new Talk("a right side's own variable", constantly + "c4 c1 apply c2 c1 apply apply");
+        t.answers("normal", 2);
+        t.term(0, "11");
+        // c5 x is the product over vec x of vec (x): the domain is not under the product.
+        t = new Talk("a right side with a domain", NAT + "c0 assume sort product declare- c0 assume sort product declare+ "
+                + "c0 assume c5 v0 apply c4 v0 apply assume c4 v1 apply product rule c0 assume c0 assume c5 v1 apply");
+        t.answers("normal", 1);
+        t.term(0, "4 2 14 101 2 14 102");
+        t = new Talk("a term for a variable that binds", NAT + "c0 assume c0 product assume c0 assume c0 product product declare+ "
+                + "c0 assume c0 product assume c4 v0 apply c0 assume v1 v0 apply lambda rule "
+                + "c0 assume c4 c0 assume c3 v0 apply v1 apply lambda apply");
+        t.answers("normal", 2);
+        t.term(0, "3 10 2 2 13 100 101");
+        t = new Talk("arguments beyond the left side", NAT + FUNCTION + "c4 c2 rule c4 c4 c1 apply apply");
+        t.answers("normal", 2);
+        t.term(0, succs(2));
+        t = new Talk("fewer arguments than the left side", PLUS + "c3 c1 apply");
+        t.answers("normal", 0);
+        t = new Talk("a pattern within that is not so", PLUS + "c0 assume c3 v0 apply c1 apply");
+        t.answers("normal", 0);
+        t = new Talk("a left side with variables in another order",
+                NAT + "c0 assume c0 assume c3 v0 apply v1 apply v1 rule c3 c1 apply c2 c1 apply apply normal");
+        t.term(0, succs(1));
+    }
+
+    private static void normalOrder() {
+        String f = NAT + FUNCTION;
+        String general = "c0 assume c4 v0 apply c1 rule ";
+        String special = "c4 c1 apply c2 c1 apply rule ";
+        Talk t = new Talk("the first rule that matches", f + general + special + "c4 c1 apply normal");
+        t.term(0, "11");
+        t = new Talk("the first rule that matches, the other way", f + special + general + "c4 c1 apply normal");
+        t.term(0, succs(1));
+        // c4 zero is rewritten to itself: only the way from the left ends.
+        String endless = f + "c4 c1 apply c4 c1 apply rule ";
+        t = new Talk("the outer redex first", endless + "c0 assume c0 assume c3 v0 apply v1 apply v1 rule "
+                + "c3 c4 c1 apply apply c1 apply");
+        t.answers("normal", 1);
+        t.term(0, "11");
+        t = new Talk("the lambda first", endless + "c0 assume c1 lambda c4 c1 apply apply");
+        t.answers("normal", 1);
+        t = new Talk("a function's redex before the argument's", endless
+                + "c0 assume c3 v0 apply c0 assume c1 lambda rule c3 c1 apply c4 c1 apply apply");
+        t.answers("normal", 2);
+        t = new Talk("no order ends", endless + "c2 c4 c1 apply apply");
+        t.answers("normal", LONG);
+        t = new Talk("a domain's redex first", VEC
+                + "c4 c3 c1 apply c1 apply apply assume c3 c1 apply c1 apply lambda");
+        t.answers("normal", 2);
+        t.term(0, "3 2 14 11 11");
+    }
+
+    private static void normalLimits() {
+        // c3 (succ x) takes three steps to c3 x by way of c4 and c5; c3 zero takes two to zero by way of c6.
+        String steps = "sort declare- c0 declare- c0 assume c0 product declare- " + FUNCTION.repeat(3)
+                + "c0 declare+ " + FUNCTION + "c0 assume c3 c2 v0 apply apply c4 v0 apply rule "
+                + "c0 assume c4 v0 apply c5 v0 apply rule c0 assume c5 v0 apply c3 v0 apply rule "
+                + "c3 c1 apply c6 rule c6 c1 rule "
+                + "c0 assume c7 v0 apply c2 c2 c2 c2 v0 apply apply apply apply rule ";
+        String sixteen = "c7 c7 c7 c7 c1 apply apply apply apply normal apply ";
+        Talk t = new Talk("50 steps", steps + "c3 " + sixteen);
+        t.answers("normal", 50);
+        t.term(0, "11");
+        t = new Talk("51 steps", steps + "c5 " + sixteen);
+        t.answers("normal", LONG);
+        t = new Talk("52 steps", steps + "c4 " + sixteen);
+        t.answers("normal", LONG);
+        t = new Talk("a row of 39", BIG + "c5 c2 c2 c2 c1 apply apply apply apply");
+        t.answers("normal", 5);
+        t.term(0, succs(19));
+        t = new Talk("a row of 41", BIG + "c5 c2 c2 c2 c2 c1 apply apply apply apply apply");
+        t.answers("normal", LONG);
+        // c4 x is c3 x x, c5 (c3 x y) is x: the row in between is too long though the last one is not.
+        String pairs = NAT + FUNCTION + "c0 assume c4 v0 apply c3 v0 apply v0 apply rule "
+                + FUNCTION + "c0 assume c0 assume c5 c3 v0 apply v1 apply apply v0 rule "
+                + FUNCTION + "c0 assume c6 v0 apply c2 c2 c2 c2 v0 apply apply apply apply rule ";
+        t = new Talk("a row of 39 in between", pairs + "c5 c4 c6 c6 c1 apply apply normal apply apply");
+        t.answers("normal", 2);
+        t.term(0, succs(8));
+        t = new Talk("a row of 43 in between", pairs + "c5 c4 c6 c6 c2 c1 apply apply apply normal apply apply");
+        t.answers("normal", LONG);
+        t = new Talk("a lambda's row of 41", BIG + "c0 assume c3 v0 apply v0 apply lambda "
+                + "c4 c4 c2 c1 apply apply apply normal apply");
+        t.answers("normal", LONG);
+    }
+
+    private static void same() {
+        Talk t = new Talk("promise 12", PLUS + "c3 c1 apply c1 apply c1");
+        t.answers("same", true);
+        t.counts(2, 0, 4, 2);
+        t.term(0, "11");
+        t.term(1, "2 2 13 11 11");
+        t.answers("c3 c1 apply c2 c1 apply apply same", false);
+        t.answers("c2 c1 apply same", true);
+        t.answers("c2 same", false);
+        t = new Talk("promise 12, too few", NAT);
+        t.answers("same", STATE);
+        t.answers("c1 same", STATE);
+        t = new Talk("promise 12, another context", NAT + "c1 c0 assume c1");
+        t.answers("same", STATE);
+        t.answers("c1 same", true);
+        t.answers("c0 assume same", true);
+        t.answers("c1 same", STATE);
+        t = new Talk("promise 12, one row begins the other", NAT + "c1 c2 c1 apply");
+        t.answers("same", false);
+        t = new Talk("promise 12, other types count for nothing", VEC + "c4 c3 c1 apply c1 apply apply declare+ "
+                + "c7 c5 rule c7 c5");
+        t.answers("same", true);
+        t = new Talk("promise 12, no end", LOOP + "c0 c2");
+        t.answers("same", LONG);
+        t = new Talk("promise 12, no end above", LOOP + "c2 c0");
+        t.answers("same", LONG);
+        t = new Talk("promise 12, no end in another context", LOOP + "c2 c2 assume c0");
+        t.answers("same", STATE);
+    }
+
+    private static void drop() {
+        Talk t = new Talk("promise 13", NAT + "c1 c0");
+        t.answers("drop", true);
+        t.counts(1, 0, 4, 0);
+        t.term(0, "11");
+        t.does("c0 assume");
+        t.answers("drop", true);
+        t.answers("drop", false);
+        t.counts(0, 1, 4, 0);
+    }
+
+    private static void leave() {
+        Talk t = new Talk("promise 14", NAT);
+        t.answers("leave", false);
+        t.answers("c1 leave", false);
+        t.does("c0 assume c0 assume");
+        t.answers("leave", true);
+        t.counts(1, 1, 4, 0);
+        t.answers("v0 leave", false);
+        t.counts(2, 1, 4, 0);
+        t.does("c0 assume");
+        t.answers("leave", true);
+        t.answers("leave", false);
+        t.does("drop");
+        t.answers("leave", true);
+        t.answers("leave", false);
+        t.counts(1, 0, 4, 0);
+    }
+
+    private static void counts() {
+        Talk t = new Talk("promise 15", "sort declare+ ");
+        t.is("counts", t.kernel.counts(), 64);
+        t.does("c0 c0 rule c0 c0 rule");
+        t.is("counts", t.kernel.counts(), 64 + 2048);
+        t.does("c0 c0 assume c0 assume c0 assume v0 v0");
+        t.is("counts", t.kernel.counts(), 3 + 24 + 64 + 2048);
+        t = new Talk("promise 15, all full", "sort declare+ ".repeat(8) + "c0 c0 rule ".repeat(8)
+                + "c0 assume ".repeat(4) + "sort ".repeat(6));
+        t.is("counts", t.kernel.counts(), 6 + 32 + 512 + 8192);
+    }
+
+    private static void judgement() {
+        Talk t = new Talk("promise 16", NAT + "sort c2 c1 apply c3");
+        t.is("judgement(0, true, 2)", t.kernel.judgement(0, true, 2), 4);
+        t.is("judgement(0, true, 4)", t.kernel.judgement(0, true, 4), 10);
+        t.is("judgement(0, true, 5)", t.kernel.judgement(0, true, 5), -1);
+        t.is("judgement(0, false, 0)", t.kernel.judgement(0, false, 0), 13);
+        t.is("judgement(0, false, 1)", t.kernel.judgement(0, false, 1), -1);
+        t.is("judgement(1, false, 1)", t.kernel.judgement(1, false, 1), 12);
+        t.is("judgement(2, false, 0)", t.kernel.judgement(2, false, 0), 0);
+        t.is("judgement(2, true, 0)", t.kernel.judgement(2, true, 0), 1);
+        t.is("judgement(3, true, 0)", t.kernel.judgement(3, true, 0), -1);
+        t.is("judgement(-1, true, 0)", t.kernel.judgement(-1, true, 0), -1);
+        t.is("judgement(0, true, -1)", t.kernel.judgement(0, true, -1), -1);
+        int least = Integer.MIN_VALUE;
+        int most = Integer.MAX_VALUE;
+        t.is("judgement(least, false, 0)", t.kernel.judgement(least, false, 0), -1);
+        t.is("judgement(most, false, 0)", t.kernel.judgement(most, false, 0), -1);
+        t.is("judgement(0, false, least)", t.kernel.judgement(0, false, least), -1);
+        t.is("judgement(0, false, most)", t.kernel.judgement(0, false, most), -1);
+        t.does("drop drop drop");
+        t.is("judgement(0, false, 0)", t.kernel.judgement(0, false, 0), -1);
+        t = new Talk("promise 16, the last of 39", BIG + NINETEEN);
+        t.is("judgement(0, false, 38)", t.kernel.judgement(0, false, 38), 11);
+        t.is("judgement(0, false, 39)", t.kernel.judgement(0, false, 39), -1);
+        t.is("judgement(0, false, 40)", t.kernel.judgement(0, false, 40), -1);
+        t.does("drop" + SIXTEEN);
+        t.is("judgement(0, false, 33)", t.kernel.judgement(0, false, 33), -1);
+    }
+
+    private static void made() {
+        Talk t = new Talk("promise 17", NAT + "c1 c0 assume v0 v0 c0 assume c0 assume v0");
+        t.is("made(0)", t.kernel.made(0), 3);
+        t.is("made(1)", t.kernel.made(1), 1);
+        t.is("made(2)", t.kernel.made(2), 1);
+        t.is("made(3)", t.kernel.made(3), 0);
+        t.is("made(4)", t.kernel.made(4), -1);
+        t.is("made(-1)", t.kernel.made(-1), -1);
+        t.is("made(least)", t.kernel.made(Integer.MIN_VALUE), -1);
+        t.is("made(most)", t.kernel.made(Integer.MAX_VALUE), -1);
+        t.does("lambda");
+        t.is("made(0)", t.kernel.made(0), 2);
+    }
+
+    private static void entry() {
+        Talk t = new Talk("promise 18", VEC + "c0 assume c4 v0 apply assume");
+        t.is("entry(0, 0)", t.kernel.entry(0, 0), 2);
+        t.is("entry(0, 2)", t.kernel.entry(0, 2), 100);
+        t.is("entry(0, 3)", t.kernel.entry(0, 3), -1);
+        t.is("entry(0, -1)", t.kernel.entry(0, -1), -1);
+        t.is("entry(1, 0)", t.kernel.entry(1, 0), 10);
+        t.is("entry(2, 0)", t.kernel.entry(2, 0), -1);
+        t.is("entry(-1, 0)", t.kernel.entry(-1, 0), -1);
+        t.is("entry(least, 0)", t.kernel.entry(Integer.MIN_VALUE, 0), -1);
+        t.is("entry(most, 0)", t.kernel.entry(Integer.MAX_VALUE, 0), -1);
+        t.is("entry(0, least)", t.kernel.entry(0, Integer.MIN_VALUE), -1);
+        t.is("entry(0, most)", t.kernel.entry(0, Integer.MAX_VALUE), -1);
+        t.does("leave");
+        t.is("entry(0, 0)", t.kernel.entry(0, 0), 10);
+        t.is("entry(1, 0)", t.kernel.entry(1, 0), -1);
+    }
+
+    private static void type() {
+        Talk t = new Talk("promise 19", NAT);
+        t.is("type(3, -1)", t.kernel.type(3, -1), 1);
+        t.is("type(2, -1)", t.kernel.type(2, -1), 0);
+        t.is("type(3, 4)", t.kernel.type(3, 4), 10);
+        t.is("type(3, 5)", t.kernel.type(3, 5), -1);
+        t.is("type(3, -2)", t.kernel.type(3, -2), -1);
+        t.is("type(0, 0)", t.kernel.type(0, 0), 0);
+        t.is("type(4, 0)", t.kernel.type(4, 0), -1);
+        t.is("type(4, -1)", t.kernel.type(4, -1), -1);
+        t.is("type(-1, 0)", t.kernel.type(-1, 0), -1);
+        t.is("type(least, -1)", t.kernel.type(Integer.MIN_VALUE, -1), -1);
+        t.is("type(most, -1)", t.kernel.type(Integer.MAX_VALUE, -1), -1);
+        t.is("type(0, least)", t.kernel.type(0, Integer.MIN_VALUE), -1);
+        t.is("type(0, most)", t.kernel.type(0, Integer.MAX_VALUE), -1);
+    }
+
+    private static void side() {
+        Talk t = new Talk("promise 20", PLUS);
+        t.is("left of 1", Talk.sideRow(t.kernel, 1, false), "2 2 13 2 12 101 100");
+        t.is("right of 1", Talk.sideRow(t.kernel, 1, true), "2 12 2 2 13 101 100");
+        t.is("side(1, true, -1)", t.kernel.side(1, true, -1), 2);
+        t.is("side(1, false, -1)", t.kernel.side(1, false, -1), 2);
+        t.is("side(0, false, -1)", t.kernel.side(0, false, -1), 1);
+        t.is("side(0, true, 1)", t.kernel.side(0, true, 1), -1);
+        t.is("side(0, false, -2)", t.kernel.side(0, false, -2), -1);
+        t.is("side(2, false, 0)", t.kernel.side(2, false, 0), -1);
+        t.is("side(2, false, -1)", t.kernel.side(2, false, -1), -1);
+        t.is("side(-1, true, -1)", t.kernel.side(-1, true, -1), -1);
+        t.is("side(least, true, 0)", t.kernel.side(Integer.MIN_VALUE, true, 0), -1);
+        t.is("side(most, true, 0)", t.kernel.side(Integer.MAX_VALUE, true, 0), -1);
+        t.is("side(0, true, least)", t.kernel.side(0, true, Integer.MIN_VALUE), -1);
+        t.is("side(0, true, most)", t.kernel.side(0, true, Integer.MAX_VALUE), -1);
+        t = new Talk("promise 20, no variables", "sort declare+ c0 c0 rule");
+        t.is("side(0, true, -1)", t.kernel.side(0, true, -1), 0);
+        t.is("side(0, true, 0)", t.kernel.side(0, true, 0), 10);
+    }
+}
