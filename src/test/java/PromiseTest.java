@@ -462,13 +462,18 @@ public final class PromiseTest {
                 VEC + "c0 assume c0 assume c4 v0 apply assume c4 v1 apply product lambda v0 apply normal");
         t.term(0, "4 2 14 100 2 14 101");
         t = new Talk("an argument with a lambda under a lambda", NAT
-                + "c0 assume c0 assume c0 product assume c0 assume v1 lambda lambda c0 assume c3 v0 apply v1 apply lambda apply");
+                + "c0 assume c0 assume c0 product assume c0 assume v1 lambda lambda "
+                + "c0 assume c3 v0 apply v1 apply lambda apply");
         t.term(0, "2 3 4 10 10 3 10 101 3 10 2 2 13 100 101");
         t.answers("normal", 1);
         t.term(0, "3 10 3 10 2 2 13 100 102");
         t = new Talk("an argument put twice", PLUS + "c0 assume c3 v0 apply v0 apply lambda c2 c1 apply apply");
         t.answers("normal", 3);
         t.term(0, succs(2));
+        t = new Talk("a redex with something before and behind",
+                NAT + "c3 c0 assume v0 lambda c1 apply apply c2 c1 apply apply");
+        t.answers("normal", 1);
+        t.term(0, "2 2 13 11 2 12 11");
         t = new Talk("a redex that a step makes", PLUS + "c0 assume c0 product assume v0 c1 apply lambda "
                 + "c0 assume c2 v0 apply lambda apply");
         t.answers("normal", 2);
@@ -490,11 +495,13 @@ public final class PromiseTest {
         t.answers("normal", 2);
         t.term(0, "11");
         // c5 x is the product over vec x of vec (x): the domain is not under the product.
-        t = new Talk("a right side with a domain", NAT + "c0 assume sort product declare- c0 assume sort product declare+ "
+        t = new Talk("a right side with a domain",
+                NAT + "c0 assume sort product declare- c0 assume sort product declare+ "
                 + "c0 assume c5 v0 apply c4 v0 apply assume c4 v1 apply product rule c0 assume c0 assume c5 v1 apply");
         t.answers("normal", 1);
         t.term(0, "4 2 14 101 2 14 102");
-        t = new Talk("a term for a variable that binds", NAT + "c0 assume c0 product assume c0 assume c0 product product declare+ "
+        t = new Talk("a term for a variable that binds",
+                NAT + "c0 assume c0 product assume c0 assume c0 product product declare+ "
                 + "c0 assume c0 product assume c4 v0 apply c0 assume v1 v0 apply lambda rule "
                 + "c0 assume c4 c0 assume c3 v0 apply v1 apply lambda apply");
         t.answers("normal", 2);
