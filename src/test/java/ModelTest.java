@@ -7,23 +7,17 @@ import java.util.TreeMap;
  * with the declarations and rules of one of the beginnings; the calls after that are drawn, the same ones each time,
  * and calls that the model refuses are mostly drawn again, so that the runs come far.
  */
-public final class ModelTest {
+public final class ModelTest extends Beginnings {
     private static final int RUNS = 1600;
     private static final int TURNS = 120;
 
-    private static final String NAT =
-            "sort declare- c0 declare- c0 assume c0 product declare- c0 assume c0 assume c0 product product declare+ ";
-    private static final String PLUS =
-            NAT + "c0 assume c3 c1 apply v0 apply v0 rule "
-                    + "c0 assume c0 assume c3 c2 v1 apply apply v0 apply c2 c3 v1 apply v0 apply apply rule ";
     private static final String[] BEGINNINGS = {
         "",
         "sort declare+ c0 declare- c0 declare+ ",
         NAT,
         PLUS,
         // Types over the numbers.
-        PLUS + "c0 assume sort product declare- c4 c1 apply declare- "
-                + "c0 assume c4 v0 apply assume c4 c2 v1 apply apply product product declare- ",
+        VEC,
         // A type that becomes another one, and constants of both.
         NAT + "sort declare+ c4 declare- c4 c0 assume c0 product rule c4 assume c0 product declare+ ",
         // Rules without end and rules that let rows grow.

@@ -1,42 +1,5 @@
 /** Each promise of the document in turn: ordinary inputs, the edges that it names, and wrong inputs. */
-public final class PromiseTest {
-    private static final String INDEX = "IndexOutOfBoundsException";
-    private static final String STATE = "IllegalStateException";
-    private static final String ROOM = "UnsupportedOperationException";
-    private static final String ARGUMENT = "IllegalArgumentException";
-    private static final String LONG = "ArithmeticException";
-
-    /** A product from nat to nat, the type of a new definable constant. */
-    private static final String FUNCTION = " c0 assume c0 product declare+ ";
-
-    /** c0 nat, c1 zero, c2 succ, c3 plus (definable, still without rules). */
-    private static final String NAT =
-            "sort declare- c0 declare- c0 assume c0 product declare- "
-                    + "c0 assume c0 assume c0 product product declare+ ";
-
-    /** plus zero x is x; plus (succ x) y is succ (plus x y). */
-    private static final String PLUS =
-            NAT + "c0 assume c3 c1 apply v0 apply v0 rule "
-                    + "c0 assume c0 assume c3 c2 v1 apply apply v0 apply c2 c3 v1 apply v0 apply apply rule ";
-
-    /** c4 vec, a type for each nat; c5 nil of vec zero; c6 cons from each n and vec n to vec (succ n). */
-    private static final String VEC =
-            PLUS + "c0 assume sort product declare- c4 c1 apply declare- "
-                    + "c0 assume c4 v0 apply assume c4 c2 v1 apply apply product product declare- ";
-
-    /** c4 adds four succs, c5 sixteen. */
-    private static final String BIG =
-            NAT + FUNCTION + "c0 assume c4 v0 apply c2 c2 c2 c2 v0 apply apply apply apply rule "
-                    + FUNCTION + "c0 assume c5 v0 apply c4 c4 c4 c4 v0 apply apply apply apply rule ";
-
-    /** The 16th succ of zero, and the 19th, whose row has 39 numbers. */
-    private static final String SIXTEEN = " c5 c1 apply normal ";
-    private static final String NINETEEN = " c5 c2 c2 c2 c1 apply apply apply apply normal ";
-
-    /** c0 a type that is rewritten to itself without end, c1 of that type; c2 nat, c3 zero, c4 succ. */
-    private static final String LOOP =
-            "sort declare+ c0 c0 rule c0 declare- sort declare- c2 declare- c2 assume c2 product declare- ";
-
+public final class PromiseTest extends Beginnings {
     public static void main(String[] args) {
         newObject();
         sort();
@@ -67,10 +30,6 @@ public final class PromiseTest {
         type();
         side();
         Talk.end("PromiseTest");
-    }
-
-    private static String succs(int n) {
-        return "2 12 ".repeat(n) + "11";
     }
 
     private static void newObject() {

@@ -41,14 +41,17 @@ final class Talk {
         }
     }
 
-    /** All calls but the last may not throw; the last one answers what is due, and changes nothing if it throws. */
+    /**
+     * All calls but the last may not throw; the last one answers what is due. What is refused, by an exception or
+     * by false, changes nothing.
+     */
     void answers(String words, Object due) {
         List<String> calls = split(words);
         String last = calls.remove(calls.size() - 1);
         does(String.join(" ", calls));
         String before = state(kernel);
         is(words, answer(kernel, last), due);
-        if (String.valueOf(due).endsWith("Exception")) {
+        if (String.valueOf(due).endsWith("Exception") || due.equals(false)) {
             is("the state after " + words, state(kernel), before);
         }
     }
@@ -59,6 +62,21 @@ final class Talk {
 
     void itsType(int k, String due) {
         is("the type of judgement " + k, judgementRow(kernel, k, true), due);
+    }
+
+    void entry(int k, String due) {
+        is("entry " + k, entryRow(kernel, k), due);
+    }
+
+    void constant(int c, int definable, String due) {
+        is("whether constant " + c + " is definable", kernel.type(c, -1), definable);
+        is("the type of constant " + c, typeRow(kernel, c), due);
+    }
+
+    void rule(int r, int variables, String left, String right) {
+        is("the variables of rule " + r, kernel.side(r, false, -1), variables);
+        is("the left side of rule " + r, sideRow(kernel, r, false), left);
+        is("the right side of rule " + r, sideRow(kernel, r, true), right);
     }
 
     void counts(int judgements, int entries, int constants, int rules) {
