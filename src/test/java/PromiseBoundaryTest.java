@@ -44,15 +44,15 @@ public final class PromiseBoundaryTest extends Beginnings {
         String sentence = "TypeKernel: Nothing on the stack, no context, no constants, no rules";
         Talk used = new Talk(sentence, "sort declare+ c0 c0 rule c0 assume sort v0");
         Talk t = new Talk(sentence, "");
-        t.is("counts", t.kernel.counts(), 0);
-        t.is("made", t.kernel.made(0), -1);
-        t.is("judgement", t.kernel.judgement(0, false, 0), -1);
-        t.is("judgement", t.kernel.judgement(0, true, 0), -1);
-        t.is("entry", t.kernel.entry(0, 0), -1);
-        t.is("type", t.kernel.type(0, 0), -1);
-        t.is("type", t.kernel.type(0, -1), -1);
-        t.is("side", t.kernel.side(0, false, 0), -1);
-        t.is("side", t.kernel.side(0, true, -1), -1);
+        t.answers("counts", 0);
+        t.answers("made(0)", -1);
+        t.answers("judgement(0,false,0)", -1);
+        t.answers("judgement(0,true,0)", -1);
+        t.answers("entry(0,0)", -1);
+        t.answers("type(0,0)", -1);
+        t.answers("type(0,-1)", -1);
+        t.answers("side(0,false,0)", -1);
+        t.answers("side(0,true,-1)", -1);
         t.answers("drop", false);
         t.answers("leave", false);
         t.answers("c0", INDEX);
@@ -162,7 +162,7 @@ public final class PromiseBoundaryTest extends Beginnings {
         t.answers("leave apply", "done");
         t = new Talk(sentence, NAT + "c1 c0 assume c2 c1");
         t.answers("apply", "done");
-        t.is("made", t.kernel.made(0), 1);
+        t.answers("made(0)", 1);
     }
 
     private static void applyTypes() {
@@ -172,12 +172,14 @@ public final class PromiseBoundaryTest extends Beginnings {
         t.answers("drop drop c0 c1 apply", ARGUMENT);
         t.answers("drop drop c1 c1 apply", ARGUMENT);
         t.answers("drop drop c2 c1 apply c1 apply", ARGUMENT);
+        t = new Talk(sentence, VEC + "c5 c1");
+        t.answers("apply", ARGUMENT);
         // The type is a constant that becomes a product.
         t = new Talk(sentence, NAT + "sort declare+ c4 declare- c4 c0 assume c0 product rule c5 c1");
         t.itsType(1, "14");
         t.answers("apply", "done");
         t.itsType(0, "10");
-        // The type is a lambda's application, or one that a rule brings to a product's constant and that to a product.
+        // The type is the application of a constant, or of a lambda, that becomes a product.
         t = new Talk(sentence, NAT + TYPE_OF_NAT + "declare+ c0 assume c4 v0 apply c0 assume c0 product rule "
                 + "c4 c1 apply declare- c5 c1");
         t.answers("apply", "done");
@@ -299,7 +301,7 @@ public final class PromiseBoundaryTest extends Beginnings {
         t.answers("lambda", "done");
         t.term(0, "3 2 14 100 100");
         t.itsType(0, "4 2 14 100 2 14 101");
-        t.is("made", t.kernel.made(0), 1);
+        t.answers("made(0)", 1);
         t.counts(1, 1, 7, 2);
         t.entry(0, "10");
         t = new Talk(sentence, BIG + "c0 assume c5 c2 c2 v0 apply apply apply normal");
@@ -353,7 +355,7 @@ public final class PromiseBoundaryTest extends Beginnings {
         t.answers("product", "done");
         t.term(0, "4 2 14 100 2 14 101");
         t.itsType(0, "0");
-        t.is("made", t.kernel.made(0), 1);
+        t.answers("made(0)", 1);
         t.counts(1, 1, 7, 2);
         t.entry(0, "10");
         t = new Talk(sentence, BIG_VEC + "c0 assume c6 c5 c2 c1 apply apply normal apply");
@@ -417,6 +419,7 @@ public final class PromiseBoundaryTest extends Beginnings {
     private static void ruleHead() {
         String sentence = "rule: The left side has to be a definable constant, or one applied";
         leftSide(sentence, NAT + "c3 c3", 0);
+        leftSide(sentence, NAT + "c3 c1 apply c2", 0);
         leftSide(sentence, NAT + "c2 c2", ARGUMENT);
         leftSide(sentence, NAT + "c2 c1 apply c1", ARGUMENT);
         leftSide(sentence, NAT + "c2 c3 c1 apply c1 apply apply c1", ARGUMENT);
@@ -466,6 +469,8 @@ public final class PromiseBoundaryTest extends Beginnings {
         leftSide(sentence, four + "c3 v1 apply v2 apply apply c1", ARGUMENT);
         leftSide(sentence, four + "c3 v1 apply c1 apply apply c1", ARGUMENT);
         leftSide(sentence, four + "c3 c1 apply v0 apply apply c1", ARGUMENT);
+        // A longer term that stood in the same place before does not count.
+        leftSide(sentence, NAT + "c0 assume c3 v0 apply v0 apply drop c3 v0 apply c2", 0);
         // Right sides may have a variable more than once, and need not have it.
         leftSide(sentence, NAT + "c0 assume c3 v0 apply c1 apply c3 v0 apply v0 apply", 0);
         leftSide(sentence, NAT + "c0 assume c3 v0 apply c1 apply c1", 0);
@@ -535,7 +540,7 @@ public final class PromiseBoundaryTest extends Beginnings {
         t.answers("c0 assume normal", STATE);
         t.answers("c3 c1 apply v0 apply c0 assume normal", 1);
         t.term(0, "100");
-        t.is("made", t.kernel.made(0), 1);
+        t.answers("made(0)", 1);
         t.answers("drop normal", STATE);
     }
 
@@ -614,147 +619,147 @@ public final class PromiseBoundaryTest extends Beginnings {
         String sentence = "counts: How many judgements there are, plus 8 times how many context entries, plus 64 times "
                 + "how many constants, plus 1024 times how many rules";
         Talk t = new Talk(sentence, "");
-        t.is("counts", t.kernel.counts(), 0);
+        t.answers("counts", 0);
         t.does("sort");
-        t.is("counts", t.kernel.counts(), 1);
+        t.answers("counts", 1);
         t.does("declare+");
-        t.is("counts", t.kernel.counts(), 64);
+        t.answers("counts", 64);
         t.does("c0 assume");
-        t.is("counts", t.kernel.counts(), 72);
+        t.answers("counts", 72);
         t.does("leave c0 c0 rule");
-        t.is("counts", t.kernel.counts(), 1088);
+        t.answers("counts", 1088);
         t = new Talk(sentence, "sort declare+ ".repeat(8) + "c0 c0 rule ".repeat(8) + "c0 assume ".repeat(4)
                 + "sort ".repeat(6));
-        t.is("counts", t.kernel.counts(), 6 + 32 + 512 + 8192);
+        t.answers("counts", 6 + 32 + 512 + 8192);
     }
 
     private static void judgement() {
         String six = NAT + "sort c0 c1 sort c2 c0 assume c0 product ";
         Talk t = new Talk("judgement: Number i of the row of judgement k's term (k = 0 the uppermost one), or of its "
                 + "type", six);
-        t.is("judgement(0, false, 0)", t.kernel.judgement(0, false, 0), 4);
-        t.is("judgement(0, false, 2)", t.kernel.judgement(0, false, 2), 10);
-        t.is("judgement(0, true, 0)", t.kernel.judgement(0, true, 0), 0);
-        t.is("judgement(1, false, 0)", t.kernel.judgement(1, false, 0), 12);
-        t.is("judgement(1, true, 0)", t.kernel.judgement(1, true, 0), 4);
-        t.is("judgement(1, true, 2)", t.kernel.judgement(1, true, 2), 10);
-        t.is("judgement(5, false, 0)", t.kernel.judgement(5, false, 0), 0);
-        t.is("judgement(5, true, 0)", t.kernel.judgement(5, true, 0), 1);
+        t.answers("judgement(0,false,0)", 4);
+        t.answers("judgement(0,false,2)", 10);
+        t.answers("judgement(0,true,0)", 0);
+        t.answers("judgement(1,false,0)", 12);
+        t.answers("judgement(1,true,0)", 4);
+        t.answers("judgement(1,true,2)", 10);
+        t.answers("judgement(5,false,0)", 0);
+        t.answers("judgement(5,true,0)", 1);
         t = new Talk("judgement: -1 when there is none", six);
         for (int k : new int[] {-1, 6, 7, LEAST, MOST}) {
-            t.is("judgement(" + k + ", false, 0)", t.kernel.judgement(k, false, 0), -1);
-            t.is("judgement(" + k + ", true, 0)", t.kernel.judgement(k, true, 0), -1);
+            t.answers("judgement(" + k + ",false,0)", -1);
+            t.answers("judgement(" + k + ",true,0)", -1);
         }
         for (int i : new int[] {-1, -2, 3, 40, 41, LEAST, MOST}) {
-            t.is("judgement(0, false, " + i + ")", t.kernel.judgement(0, false, i), -1);
-            t.is("judgement(1, true, " + i + ")", t.kernel.judgement(1, true, i), -1);
+            t.answers("judgement(0,false," + i + ")", -1);
+            t.answers("judgement(1,true," + i + ")", -1);
         }
-        t.is("judgement(0, true, 1)", t.kernel.judgement(0, true, 1), -1);
-        t.is("judgement(1, false, 1)", t.kernel.judgement(1, false, 1), -1);
+        t.answers("judgement(0,true,1)", -1);
+        t.answers("judgement(1,false,1)", -1);
         t.does("drop");
-        t.is("judgement(5, false, 0)", t.kernel.judgement(5, false, 0), -1);
+        t.answers("judgement(5,false,0)", -1);
         t = new Talk("judgement: -1 when there is none", BIG + NINETEEN);
-        t.is("judgement(0, false, 38)", t.kernel.judgement(0, false, 38), 11);
-        t.is("judgement(0, false, 39)", t.kernel.judgement(0, false, 39), -1);
+        t.answers("judgement(0,false,38)", 11);
+        t.answers("judgement(0,false,39)", -1);
         // A shorter term in the place of a longer one.
         t.does("drop c1");
-        t.is("judgement(0, false, 1)", t.kernel.judgement(0, false, 1), -1);
+        t.answers("judgement(0,false,1)", -1);
     }
 
     private static void made() {
         Talk t = new Talk("made: How many context entries judgement k was made with",
                 NAT + "c1 c0 assume v0 c0 assume c0 assume c0 assume v0");
-        t.is("made(0)", t.kernel.made(0), 4);
-        t.is("made(1)", t.kernel.made(1), 1);
-        t.is("made(2)", t.kernel.made(2), 0);
+        t.answers("made(0)", 4);
+        t.answers("made(1)", 1);
+        t.answers("made(2)", 0);
         t.does("lambda");
-        t.is("made(0)", t.kernel.made(0), 3);
+        t.answers("made(0)", 3);
         t = new Talk("made: -1 when there is none", "sort sort");
         for (int k : new int[] {-1, 2, 6, LEAST, MOST}) {
-            t.is("made(" + k + ")", t.kernel.made(k), -1);
+            t.answers("made(" + k + ")", -1);
         }
-        t.is("made(1)", t.kernel.made(1), 0);
+        t.answers("made(1)", 0);
         t.does("drop");
-        t.is("made(1)", t.kernel.made(1), -1);
+        t.answers("made(1)", -1);
         t.does("drop");
-        t.is("made(0)", t.kernel.made(0), -1);
+        t.answers("made(0)", -1);
     }
 
     private static void entry() {
         Talk t = new Talk("entry: Number i of the row of context entry k",
                 VEC + "c0 assume c4 v0 apply assume c0 assume c4 v2 apply assume");
-        t.is("entry(0, 2)", t.kernel.entry(0, 2), 102);
-        t.is("entry(2, 2)", t.kernel.entry(2, 2), 100);
-        t.is("entry(3, 0)", t.kernel.entry(3, 0), 10);
+        t.answers("entry(0,2)", 102);
+        t.answers("entry(2,2)", 100);
+        t.answers("entry(3,0)", 10);
         t = new Talk("entry: -1 when there is none", VEC + "c0 assume c4 v0 apply assume c0 assume c4 v2 apply assume");
         for (int k : new int[] {-1, 4, 5, LEAST, MOST}) {
-            t.is("entry(" + k + ", 0)", t.kernel.entry(k, 0), -1);
+            t.answers("entry(" + k + ",0)", -1);
         }
         for (int i : new int[] {-1, -2, 3, 40, LEAST, MOST}) {
-            t.is("entry(0, " + i + ")", t.kernel.entry(0, i), -1);
+            t.answers("entry(0," + i + ")", -1);
         }
-        t.is("entry(3, 1)", t.kernel.entry(3, 1), -1);
+        t.answers("entry(3,1)", -1);
         t.does("leave");
-        t.is("entry(3, 0)", t.kernel.entry(3, 0), -1);
+        t.answers("entry(3,0)", -1);
         // A shorter entry in the place of a longer one.
         t.does("c0 assume");
-        t.is("entry(0, 1)", t.kernel.entry(0, 1), -1);
+        t.answers("entry(0,1)", -1);
     }
 
     private static void type() {
         Talk t = new Talk("type: Number i of the row of constant c's type", NAT);
-        t.is("type(0, 0)", t.kernel.type(0, 0), 0);
-        t.is("type(3, 0)", t.kernel.type(3, 0), 4);
-        t.is("type(3, 4)", t.kernel.type(3, 4), 10);
+        t.answers("type(0,0)", 0);
+        t.answers("type(3,0)", 4);
+        t.answers("type(3,4)", 10);
         t = new Talk("type: for i = -1: 1 if it is definable, else 0", NAT);
-        t.is("type(3, -1)", t.kernel.type(3, -1), 1);
-        t.is("type(2, -1)", t.kernel.type(2, -1), 0);
+        t.answers("type(3,-1)", 1);
+        t.answers("type(2,-1)", 0);
         t = new Talk("type: -1 when there is none", NAT);
         for (int c : new int[] {-1, 4, 8, LEAST, MOST}) {
-            t.is("type(" + c + ", 0)", t.kernel.type(c, 0), -1);
-            t.is("type(" + c + ", -1)", t.kernel.type(c, -1), -1);
+            t.answers("type(" + c + ",0)", -1);
+            t.answers("type(" + c + ",-1)", -1);
         }
         for (int i : new int[] {-2, 5, 40, LEAST, MOST}) {
-            t.is("type(3, " + i + ")", t.kernel.type(3, i), -1);
+            t.answers("type(3," + i + ")", -1);
         }
-        t.is("type(0, 1)", t.kernel.type(0, 1), -1);
+        t.answers("type(0,1)", -1);
         t = new Talk("type: -1 when there is none", "sort declare+ ".repeat(8));
-        t.is("type(7, 0)", t.kernel.type(7, 0), 0);
-        t.is("type(7, -1)", t.kernel.type(7, -1), 1);
-        t.is("type(8, 0)", t.kernel.type(8, 0), -1);
-        t.is("type(8, -1)", t.kernel.type(8, -1), -1);
+        t.answers("type(7,0)", 0);
+        t.answers("type(7,-1)", 1);
+        t.answers("type(8,0)", -1);
+        t.answers("type(8,-1)", -1);
     }
 
     private static void side() {
         Talk t = new Talk("side: Number i of the row of rule r's left side, or of its right side", PLUS);
-        t.is("side(0, false, 2)", t.kernel.side(0, false, 2), 13);
-        t.is("side(0, true, 0)", t.kernel.side(0, true, 0), 100);
-        t.is("side(1, false, 6)", t.kernel.side(1, false, 6), 100);
-        t.is("side(1, true, 6)", t.kernel.side(1, true, 6), 100);
-        t.is("side(1, true, 1)", t.kernel.side(1, true, 1), 12);
+        t.answers("side(0,false,2)", 13);
+        t.answers("side(0,true,0)", 100);
+        t.answers("side(1,false,6)", 100);
+        t.answers("side(1,true,6)", 100);
+        t.answers("side(1,true,1)", 12);
         t = new Talk("side: for i = -1 how many variables it has", PLUS + "c3 c3 rule");
-        t.is("side(0, false, -1)", t.kernel.side(0, false, -1), 1);
-        t.is("side(1, false, -1)", t.kernel.side(1, false, -1), 2);
-        t.is("side(1, true, -1)", t.kernel.side(1, true, -1), 2);
-        t.is("side(2, false, -1)", t.kernel.side(2, false, -1), 0);
-        t.is("side(2, true, -1)", t.kernel.side(2, true, -1), 0);
+        t.answers("side(0,false,-1)", 1);
+        t.answers("side(1,false,-1)", 2);
+        t.answers("side(1,true,-1)", 2);
+        t.answers("side(2,false,-1)", 0);
+        t.answers("side(2,true,-1)", 0);
         t = new Talk("side: -1 when there is none", PLUS);
         for (int r : new int[] {-1, 2, 8, LEAST, MOST}) {
             for (int i : new int[] {-1, 0}) {
-                t.is("side(" + r + ", false, " + i + ")", t.kernel.side(r, false, i), -1);
-                t.is("side(" + r + ", true, " + i + ")", t.kernel.side(r, true, i), -1);
+                t.answers("side(" + r + ",false," + i + ")", -1);
+                t.answers("side(" + r + ",true," + i + ")", -1);
             }
         }
         for (int i : new int[] {-2, 7, 40, LEAST, MOST}) {
-            t.is("side(1, false, " + i + ")", t.kernel.side(1, false, i), -1);
-            t.is("side(1, true, " + i + ")", t.kernel.side(1, true, i), -1);
+            t.answers("side(1,false," + i + ")", -1);
+            t.answers("side(1,true," + i + ")", -1);
         }
-        t.is("side(0, true, 1)", t.kernel.side(0, true, 1), -1);
-        t.is("side(0, false, 4)", t.kernel.side(0, false, 4), 100);
-        t.is("side(0, false, 5)", t.kernel.side(0, false, 5), -1);
+        t.answers("side(0,true,1)", -1);
+        t.answers("side(0,false,4)", 100);
+        t.answers("side(0,false,5)", -1);
         t = new Talk("side: -1 when there is none", NAT + "c3 c3 rule ".repeat(8));
-        t.is("side(7, false, 0)", t.kernel.side(7, false, 0), 13);
-        t.is("side(8, false, 0)", t.kernel.side(8, false, 0), -1);
-        t.is("side(8, true, -1)", t.kernel.side(8, true, -1), -1);
+        t.answers("side(7,false,0)", 13);
+        t.answers("side(8,false,0)", -1);
+        t.answers("side(8,true,-1)", -1);
     }
 }

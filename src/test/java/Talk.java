@@ -1,11 +1,18 @@
 import java.util.ArrayList;
 import java.util.List;
+import java.util.function.IntUnaryOperator;
 
 /**
- * Makes calls on a TypeKernel that are written as words, and tells its answers as texts. The words are the
- * methods' names; constant(3) is c3, variable(0) is v0, declare(true) is declare+, declare(false) declare-.
+ * Makes calls on a TypeKernel that are written as words, and tells its answers as texts. The words are the methods'
+ * names; constant(3) is c3, variable(0) is v0, declare(true) is declare+, declare(false) declare-. What asks for
+ * numbers is written as in Java, without blanks: judgement(0,true,2).
  */
 final class Talk {
+    /** Rows are looked at up to here, beyond the longest one that there may be. */
+    private static final int ROW_END = 45;
+
+    private static final int THROWN = -999;
+
     private static int wrong = 0;
 
     final TypeKernel kernel = new TypeKernel();
@@ -49,9 +56,10 @@ final class Talk {
         List<String> calls = split(words);
         String last = calls.remove(calls.size() - 1);
         does(String.join(" ", calls));
-        String before = state(kernel);
+        boolean isRefused = String.valueOf(due).endsWith("Exception") || due.equals(false);
+        String before = isRefused ? state(kernel) : "";
         is(words, answer(kernel, last), due);
-        if (String.valueOf(due).endsWith("Exception") || due.equals(false)) {
+        if (isRefused) {
             is("the state after " + words, state(kernel), before);
         }
     }
@@ -69,18 +77,18 @@ final class Talk {
     }
 
     void constant(int c, int definable, String due) {
-        is("whether constant " + c + " is definable", kernel.type(c, -1), definable);
+        answers("type(" + c + ",-1)", definable);
         is("the type of constant " + c, typeRow(kernel, c), due);
     }
 
     void rule(int r, int variables, String left, String right) {
-        is("the variables of rule " + r, kernel.side(r, false, -1), variables);
+        answers("side(" + r + ",false,-1)", variables);
         is("the left side of rule " + r, sideRow(kernel, r, false), left);
         is("the right side of rule " + r, sideRow(kernel, r, true), right);
     }
 
     void counts(int judgements, int entries, int constants, int rules) {
-        is("counts", kernel.counts(), judgements + 8 * entries + 64 * constants + 1024 * rules);
+        answers("counts", judgements + 8 * entries + 64 * constants + 1024 * rules);
     }
 
     static List<String> split(String words) {
@@ -111,6 +119,9 @@ final class Talk {
             }
             return "done";
         }
+        if (word.endsWith(")")) {
+            return String.valueOf(number(kernel, word.split("[(,)]")));
+        }
         switch (word) {
             case "sort": kernel.sort(); return "done";
             case "apply": kernel.apply(); return "done";
@@ -124,7 +135,22 @@ final class Talk {
             case "same": return String.valueOf(kernel.same());
             case "drop": return String.valueOf(kernel.drop());
             case "leave": return String.valueOf(kernel.leave());
+            case "counts": return String.valueOf(kernel.counts());
             default: throw new Error("no such word: " + word);
+        }
+    }
+
+    /** What a call that asks for a number answers; the call is its name and its arguments. */
+    private static int number(TypeKernel kernel, String[] call) {
+        int first = Integer.parseInt(call[1]);
+        int last = Integer.parseInt(call[call.length - 1]);
+        switch (call[0]) {
+            case "judgement": return kernel.judgement(first, Boolean.parseBoolean(call[2]), last);
+            case "made": return kernel.made(first);
+            case "entry": return kernel.entry(first, last);
+            case "type": return kernel.type(first, last);
+            case "side": return kernel.side(first, Boolean.parseBoolean(call[2]), last);
+            default: throw new Error("no such call: " + call[0]);
         }
     }
 
@@ -133,7 +159,7 @@ final class Talk {
         StringBuilder text = new StringBuilder();
         text.append("counts ").append(kernel.counts());
         for (int k = -1; k <= 6; k++) {
-            text.append("\njudgement ").append(k).append(" made ").append(kernel.made(k));
+            text.append("\njudgement ").append(k).append(" made ").append(ask(kernel::made, k));
             text.append(": ").append(judgementRow(kernel, k, false));
             text.append(" : ").append(judgementRow(kernel, k, true));
         }
@@ -141,65 +167,61 @@ final class Talk {
             text.append("\nentry ").append(k).append(": ").append(entryRow(kernel, k));
         }
         for (int c = -1; c <= 8; c++) {
-            text.append("\nconstant ").append(c).append(" definable ").append(kernel.type(c, -1));
+            text.append("\nconstant ").append(c).append(" definable ").append(ask(i -> kernel.type(i, -1), c));
             text.append(": ").append(typeRow(kernel, c));
         }
         for (int r = -1; r <= 8; r++) {
-            text.append("\nrule ").append(r).append(" variables ").append(kernel.side(r, false, -1));
-            text.append(" ").append(kernel.side(r, true, -1));
+            text.append("\nrule ").append(r).append(" variables ").append(ask(i -> kernel.side(i, false, -1), r));
+            text.append(" ").append(ask(i -> kernel.side(i, true, -1), r));
             text.append(": ").append(sideRow(kernel, r, false)).append(" -> ").append(sideRow(kernel, r, true));
         }
         return text.toString();
     }
 
     static String judgementRow(TypeKernel kernel, int k, boolean type) {
-        int[] numbers = new int[45];
-        for (int i = 0; i < numbers.length; i++) {
-            numbers[i] = kernel.judgement(k, type, i);
-        }
-        return row(numbers, kernel.judgement(k, type, -1), kernel.judgement(k, type, -2));
+        return row(i -> kernel.judgement(k, type, i), -1);
     }
 
     static String entryRow(TypeKernel kernel, int k) {
-        int[] numbers = new int[45];
-        for (int i = 0; i < numbers.length; i++) {
-            numbers[i] = kernel.entry(k, i);
-        }
-        return row(numbers, kernel.entry(k, -1), kernel.entry(k, -2));
+        return row(i -> kernel.entry(k, i), -1);
     }
 
     static String typeRow(TypeKernel kernel, int c) {
-        int[] numbers = new int[45];
-        for (int i = 0; i < numbers.length; i++) {
-            numbers[i] = kernel.type(c, i);
-        }
-        return row(numbers, -1, kernel.type(c, -2));
+        return row(i -> kernel.type(c, i), -2);
     }
 
     static String sideRow(TypeKernel kernel, int r, boolean right) {
-        int[] numbers = new int[45];
-        for (int i = 0; i < numbers.length; i++) {
-            numbers[i] = kernel.side(r, right, i);
-        }
-        return row(numbers, -1, kernel.side(r, right, -2));
+        return row(i -> kernel.side(r, right, i), -2);
     }
 
-    /** The numbers up to the first -1; what stands outside the row has to be -1. */
-    private static String row(int[] numbers, int before, int farBefore) {
+    /** The numbers up to the first -1; what stands outside the row, from the number before it on, has to be -1. */
+    private static String row(IntUnaryOperator numbers, int before) {
         StringBuilder text = new StringBuilder();
         int end = 0;
-        while (end < numbers.length && numbers[end] != -1) {
-            text.append(end == 0 ? "" : " ").append(numbers[end]);
+        while (end < ROW_END && ask(numbers, end) != -1) {
+            text.append(end == 0 ? "" : " ").append(ask(numbers, end));
             end++;
         }
-        for (int i = end; i < numbers.length; i++) {
-            if (numbers[i] != -1) {
-                text.append(" and number ").append(i).append(" is ").append(numbers[i]);
-            }
+        for (int i = end; i < ROW_END; i++) {
+            outside(numbers, i, text);
         }
-        if (before != -1 || farBefore != -1) {
-            text.append(" and before it ").append(farBefore).append(' ').append(before);
-        }
+        outside(numbers, before, text);
+        outside(numbers, before - 1, text);
         return text.toString();
+    }
+
+    private static void outside(IntUnaryOperator numbers, int i, StringBuilder text) {
+        if (ask(numbers, i) != -1) {
+            text.append(" and number ").append(i).append(" is ").append(ask(numbers, i));
+        }
+    }
+
+    /** What asks for a number never throws; a class that does so is to fail its tests, not to end them. */
+    private static int ask(IntUnaryOperator numbers, int i) {
+        try {
+            return numbers.applyAsInt(i);
+        } catch (RuntimeException e) {
+            return THROWN;
+        }
     }
 }
