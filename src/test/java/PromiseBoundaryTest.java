@@ -174,6 +174,10 @@ public final class PromiseBoundaryTest extends Beginnings {
         t.answers("drop drop c2 c1 apply c1 apply", ARGUMENT);
         t = new Talk(sentence, VEC + "c5 c1");
         t.answers("apply", ARGUMENT);
+        // An application is no product, however the upper one's type, which has no end, would go on.
+        t = new Talk(sentence, LOOP + "c2 assume sort product declare- c5 c3 apply declare- c6 c1");
+        t.itsType(1, "2 15 13");
+        t.answers("apply", ARGUMENT);
         // The type is a constant that becomes a product.
         t = new Talk(sentence, NAT + "sort declare+ c4 declare- c4 c0 assume c0 product rule c5 c1");
         t.itsType(1, "14");
